@@ -592,7 +592,7 @@ public final class DriverMoor {
 
     // ---- unbinding
 
-    /** Unbinds the bound devices that are marked, and all that need one of them; takes the marks away. */
+    /** Unbinds the bound devices that are marked, and all that need one of them. */
     private int unbindTheLeaving() {
         // needs were bound ahead of what needs them: one way up marks all, one way down unbinds in order
         for (int i = 0; i < bound.size(); i++) {
@@ -607,9 +607,6 @@ public final class DriverMoor {
                 detach(each);
                 left++;
             }
-        }
-        for (int i = 0; i < devices.size(); i++) {
-            devices.get(i).isLeaving = false;
         }
         return left;
     }
@@ -628,6 +625,7 @@ public final class DriverMoor {
         device.isAwake = false;
         device.isPending = false;
         device.fellBySuspend = false;
+        device.isLeaving = false;
         log.note(UNBOUND, device.number);
     }
 

@@ -11,6 +11,7 @@ public final class DevicesTest {
         plugLines();
         plugOrder();
         plugWakesNeeds();
+        allInOneChain();
         unplugSubtree();
         unplugOrder();
         unplugLeavesHusk();
@@ -19,6 +20,7 @@ public final class DevicesTest {
         loadFirmware();
         unbindAll();
         unbindOrder();
+        unbindAlone();
         bindAgain();
         bindWhileSuspended();
         resetEndsAll();
@@ -163,6 +165,29 @@ public final class DevicesTest {
         x.pass(1);
         Due.is("2 that is 5 ticks ago", x.isOn(4), false);
         Due.is("2 its parent was held till then", x.isOn(3), true);
+    }
+
+    private static void allInOneChain() {
+        DriverMoor x = new DriverMoor();
+        for (int i = 0; i < 24; i++) {
+            x.plug(i - 1, 0, 8, NONE, false, i - 2 < 0 ? NONE : i - 2, i - 1);
+        }
+        x.driver(1, 0, 0, true);
+        Due.is("4 all are bound behind one call", x.given(3), 24);
+        Due.is("4 each fills the window above", x.window(23) * 100 + x.given(0), 8);
+        x.open(23);
+        x.set(0, 77);
+        x.pass(50);
+        x.pass(50);
+        x.pass(20);
+        Due.is("17 asleep one after the other", x.events(), 48);
+        Due.is("13 saved", x.get(0), 77);
+        Due.is("13 all are woken for the lowest", x.events(), 72);
+        Due.is("13 that one last", x.eventOf(71), 23);
+        Due.is("18 none refuses", x.suspend(), NONE);
+        Due.is("19 all", x.resume(), 24);
+        Due.is("3 all", x.unplug(0), 24);
+        Due.is("3 nothing is given", x.given(0) + x.given(3), 0);
     }
 
     private static void unplugSubtree() {
@@ -319,6 +344,19 @@ public final class DevicesTest {
         Due.is("6 others are bound again", Events.from(x, 9), "bound 0, bound 1, bound 3");
         x.pass(9);
         Due.is("6 the last first asleep", Events.from(x, 12), "slept 3, slept 1");
+    }
+
+    private static void unbindAlone() {
+        DriverMoor x = new DriverMoor();
+        x.driver(1, 0, 0, false);
+        for (int i = 0; i < 4; i++) {
+            plain(x, NONE, 0);
+        }
+        for (int device = 0; device < 4; device++) {
+            Due.is("6 one that was unbound before is left alone", x.unbind(device), 1);
+            x.bind(device);
+        }
+        Due.is("6 all are bound", x.given(3), 4);
     }
 
     private static void bindAgain() {

@@ -45,8 +45,16 @@ final class Due {
             return "no exception";
         } catch (RuntimeException e) {
             // the exact class: a subclass is what the machine throws by itself
-            return e.getClass().getName();
+            return e.getClass().getName() + (isThrownByProgram(e) ? "" : " of the machine or the library");
         }
+    }
+
+    /** Whether a throw statement of the program made it: then the program's own method is on top. */
+    static boolean isThrownByProgram(RuntimeException e) {
+        StackTraceElement[] trace = e.getStackTrace();
+        boolean isOwn = trace.length > 0 && trace[0].getClassName().startsWith("DriverMoor");
+        // the machine's own exceptions tell in their text what went wrong with which number
+        return isOwn && e.getMessage() != null && !e.getMessage().startsWith("Index ");
     }
 
     private static void tell(boolean isRight, String text) {

@@ -72,6 +72,11 @@ public final class HandlesTest {
         Due.is("10 its call that went on", x.callState(1), DriverMoor.ABORTED);
         Due.is("10 a call of another handle", x.callState(2), DriverMoor.GOING);
         Due.is("10 maps are the device's", x.access(0, 0), 5);
+        DriverMoor y = two();
+        y.open(0);
+        y.call(0, 9);
+        y.close(0);
+        Due.is("10 the first call of all", y.callState(0), DriverMoor.ABORTED);
         Due.badState("10 closed", () -> x.close(0));
         Due.badState("10 a closed one calls not", () -> x.call(0, 1));
         Due.badState("10 nor sets", () -> x.set(0, 1));
