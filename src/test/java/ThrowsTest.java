@@ -33,11 +33,17 @@ public final class ThrowsTest {
     }
 
     private static void check(String what, Maker maker, Class<? extends RuntimeException> want, Change change) {
-        DriverMoor touched = maker.make();
-        DriverMoor alike = maker.make();
-        Due.fails(what, want, () -> change.on(touched));
-        Due.is("unchanged by " + what, Story.of(touched), Story.of(alike));
-        Due.is("unchanged by " + what, Story.tail(touched, 5, 3), Story.tail(alike, 5, 3));
+        Due.is("unchanged by " + what, Story.of(refused(what, maker, want, change)), Story.of(maker.make()));
+        // other worlds for the tail: all that a story asks is too much for the 512 calls of one
+        Due.is("unchanged by " + what, Story.tail(refused(what, maker, want, change), 5, 3),
+                Story.tail(maker.make(), 5, 3));
+    }
+
+    private static DriverMoor refused(String what, Maker maker, Class<? extends RuntimeException> want,
+            Change change) {
+        DriverMoor x = maker.make();
+        Due.fails(what, want, () -> change.on(x));
+        return x;
     }
 
     /** Bound are 0, 1, 2; 3 waits for firmware; 4 is a husk; 5 was unbound by hand. */
